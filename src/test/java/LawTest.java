@@ -65,6 +65,7 @@ public final class LawTest {
         reads("c(1+1)", -1005);
         reads("c(1=1*)", -1006);
         reads("c(1=1" + (char) 0, -1005);
+        reads("c(1=1)" + (char) 0, -1006);
         reads("c(1=" + (char) 255 + ")", -1004);
         reads("c(1=" + (char) ('n' + 128) + ")", -1004);
     }

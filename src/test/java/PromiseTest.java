@@ -352,6 +352,8 @@ public final class PromiseTest {
         x.plan(2, 2, 2);
         same("p14 1", x.costs(1), 9);
         same("p14 2", x.costs(2), 1);
+        same("p13 edges", x.prices(100, 0), true);
+        same("p14 claps", x.costs(1), 600);
         same("p13 edges", x.prices(0, 100), true);
         same("p14 hisses", x.costs(1), 300);
         same("p13 said", x.prices(7, 10), true);
@@ -453,6 +455,16 @@ public final class PromiseTest {
         same("p17 two are there", y.seated(1, 2, 0), bits(0, 1));
         same("p17 three are not", y.seated(1, 3, 0), -1);
         same("p17 three are not: house", y.seated(1, 3, 1), -1000000);
+        PaidHouse hiss = people(5, 2, "h(z>0)");
+        hiss.plan(1, 0, 2);
+        same("p17 least: who has two beside him", hiss.seated(1, 1, 0), bits(1));
+        same("p17 least: the house", hiss.seated(1, 1, 1), -3);
+        same("p17 least: another what", hiss.seated(1, 1, 2), -1);
+        hiss.plan(1, 1, 1);
+        same("p17 as many: greatest, not least", hiss.seated(1, 1, 0), bits(0));
+        hiss.plan(1, 1, 2);
+        hiss.plan(2, 0, 1);
+        same("p17 the plan of the stick, not of the other", hiss.seated(1, 1, 1), -4);
         same("p17 nobody", new PaidHouse().seated(1, 1, 0), -1);
         PaidHouse z = people(0, 1, "");
         z.seat(22, 0, 0);
@@ -508,6 +520,8 @@ public final class PromiseTest {
         for (int n : FAR) {
             same("p19 far", x.silent(n), -1000000);
         }
+        x.seconds(1);
+        same("p19 a shorter evening", x.silent(1), 1);
         PaidHouse y = people(2, 1, "c(q>0)");
         y.paid(0, 1);
         same("p19 no stick is seen", y.silent(1), 0);
@@ -660,6 +674,19 @@ public final class PromiseTest {
         same("p24 the rows as they were", x.otherwise(2), 1);
     }
 
+    private static void p24Hisses() {
+        PaidHouse x = people(3, 3, "h(t=0&s=1);h(t=1&s=2)");
+        x.keep();
+        Checks.law(x, 0, "c(t=1&z=1&b=1&l=0&n=0)");
+        same("p24 one beside him had hissed", x.otherwise(0), 1);
+        Checks.law(x, 0, "c(t=2&z=0&b=1);c(t=1&z>1)");
+        same("p24 only the second before counts", x.otherwise(0), 1);
+        Checks.law(x, 0, "c(t=1&l=2);c(t=2&l=0&z=1)");
+        same("p24 he had hissed himself", x.otherwise(1), 3);
+        Checks.law(x, 0, "c(t=0&b>0)");
+        same("p24 nothing ahead of the first", x.otherwise(0), 0);
+    }
+
     private static void p26Funnier() {
         PaidHouse x = new PaidHouse();
         int[][] no = {{0, 0, 0, 0, 0}, {21, 0, 0, 0, 0}, {5, -1, 0, 0, 0}, {5, 6, 0, 0, 0}, {5, 2, -1, 0, 0},
@@ -806,6 +833,7 @@ public final class PromiseTest {
         p22And23Kept();
         p24And25Suspects();
         p24AsKept();
+        p24Hisses();
         p26Funnier();
         p27Years();
         p28Check();
