@@ -222,14 +222,18 @@ public final class RandomRunsTest {
         }
     }
 
+    private static int upToTwenty(int n) {
+        return Math.max(0, Math.min(n, 20));
+    }
+
     private void askRest() {
         int what = some(-1, 3);
         int m = some(2, 5);
         same("rests " + m + " " + what, house.rests(m, what), plain.rests(m, what));
         int n = some(1, lot.nextInt(10) == 0 ? 20 : 9);
-        int boxes = some(0, Math.max(0, Math.min(n, 20)));
-        int k = some(0, Math.max(0, Math.min(boxes, 20)));
-        int j = some(0, Math.max(0, Math.min(n, 20) - Math.max(0, Math.min(boxes, 20))));
+        int boxes = some(0, upToTwenty(n));
+        int k = some(0, upToTwenty(boxes));
+        int j = some(0, Math.max(0, upToTwenty(n) - upToTwenty(boxes)));
         int part = some(0, 1);
         same("funnier " + n + " " + boxes + " " + k + " " + j + " " + part,
                 house.funnier(n, boxes, k, j, part), plain.funnier(n, boxes, k, j, part));
