@@ -10,17 +10,8 @@ public final class PromiseTest {
         Checks.same(what, got, want);
     }
 
-    /** People of sort 0 on seats 0 to n - 1, none of whom knows. */
     private static PaidHouse people(int n, int seconds, String law) {
-        PaidHouse x = new PaidHouse();
-        for (int s = 0; s < n; s++) {
-            x.seat(s, 0, 0);
-        }
-        x.seconds(seconds);
-        if (!law.isEmpty()) {
-            same("law " + law, Checks.law(x, 0, law) > 0, true);
-        }
-        return x;
+        return Checks.people(n, seconds, law);
     }
 
     private static void p1NewObject() {
@@ -83,11 +74,7 @@ public final class PromiseTest {
     }
 
     private static int bits(int... seats) {
-        int set = 0;
-        for (int s : seats) {
-            set |= 1 << s;
-        }
-        return set;
+        return Checks.bits(seats);
     }
 
     private static void p2Neighbours() {

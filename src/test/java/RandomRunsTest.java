@@ -3,12 +3,15 @@ import java.util.Random;
 /** Runs of calls by lot (always the same lot), each answered by PaidHouse and by PlainHouse. */
 public final class RandomRunsTest {
     private static final String LETTERS = "gnzabpltswqk";
+    /** No step makes more than 60 calls, and an object is used for 512 at most. */
+    private static final int MOST_CALLS = 450;
     private final Random lot;
     private final PaidHouse house = new PaidHouse();
     private final PlainHouse plain = new PlainHouse();
     private final StringBuilder story = new StringBuilder();
     private final boolean small;
     private boolean fine = true;
+    private int calls = 0;
 
     private RandomRunsTest(long seed) {
         lot = new Random(seed);
@@ -97,6 +100,7 @@ public final class RandomRunsTest {
     }
 
     private void same(String call, long got, long want) {
+        calls++;
         story.append(call).append(" -> ").append(want).append('\n');
         if (got != want) {
             fine = false;
@@ -287,7 +291,7 @@ public final class RandomRunsTest {
         if (lot.nextInt(8) > 0) {
             fill();
         }
-        for (int call = 0; call < 120 && fine; call++) {
+        while (fine && calls < MOST_CALLS) {
             switch (lot.nextInt(12)) {
                 case 0: tellLaw(); break;
                 case 1: askEvening(); break;
