@@ -71,7 +71,7 @@ public final class EdgeLawTest {
         }
     }
 
-    /** "by the first n bytes of the tape (1 to 120; empty then)", "NONE: no such ones, it has not so many (the tape stays)" */
+    /** "by the first n bytes of the tape (1 to 120; empty then)"; "NONE: .. it has not so many (the tape stays)" */
     private static void firstBytesOfTheTape() {
         PaidHouse x = new PaidHouse();
         Checks.span("law of a full tape", 1, 120, n -> {
@@ -269,7 +269,7 @@ public final class EdgeLawTest {
         return text + ")";
     }
 
-    /** "5 a seventh of ( [ ! that are open in one another, at it (the ( of the CLAUSE counts ..)": all ways to open six. */
+    /** "5 a seventh of ( [ ! that are open in one another, at it (the ( of the CLAUSE counts ..)": all ways to six. */
     private static void sevenOpen(String opened) {
         if (opened.length() < 5) {
             for (String sign : opened.endsWith("[") ? new String[] {"["} : new String[] {"(", "[", "!"}) {

@@ -20,7 +20,7 @@ public final class EdgeSetsTest {
 
     // ---- seated ----
 
-    /** "of a STICK, with n (1 to 3) to be PAID by it"; "what 0 the set, 1 THE HOUSE then (-1000000 for no such ones)" */
+    /** "with n (1 to 3) to be PAID by it"; "what 0 the set, 1 THE HOUSE then (-1000000 for no such ones)" */
     private static void oneToThree() {
         PaidHouse x = Checks.people(4, 1, "");
         Checks.span("seated by", 1, 2, stick -> x.seated(stick, 1, 0), -1);

@@ -2,9 +2,9 @@ import java.util.ArrayList;
 import java.util.List;
 
 /**
- * "A call that is refused (NONE, false) changes nothing but the tape, where it is told." Each such call is made in a new
- * house, in one that has been told something of everything, and in one that is full; then all that a house answers is
- * asked and set beside the answers of a house without the call. What only asks changes nothing either.
+ * "A call that is refused (NONE, false) changes nothing but the tape, where it is told." Each such call is made in a
+ * new house, in one that has been told something of everything, and in one that is full; then all that a house answers
+ * is asked and set beside the answers of a house without the call. What only asks changes nothing either.
  */
 public final class RefusedTest {
     private static final int NEW = 0;
